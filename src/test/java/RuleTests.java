@@ -1,0 +1,239 @@
+import java.io.IOException;
+import java.lang.management.ManagementFactory;
+import java.lang.reflect.Field;
+import java.lang.reflect.Method;
+import java.lang.reflect.Modifier;
+import java.nio.charset.StandardCharsets;
+import java.nio.file.Files;
+import java.nio.file.Path;
+import java.util.ArrayList;
+import java.util.Arrays;
+import java.util.HashSet;
+import java.util.List;
+import java.util.Set;
+import java.util.regex.Matcher;
+import java.util.regex.Pattern;
+
+/** The face as the document has it, the rules of LANGUAGE.md that a text can be searched for, and the room that a run takes. */
+public final class RuleTests {
+    private static final Check C = new Check();
+    private static final String PLACE = "IndexOutOfBoundsException", ARGUMENT = "IllegalArgumentException", STATE = "IllegalStateException";
+
+    public static void main(String[] args) throws IOException {
+        faceHasOnlyWhatIsDue();
+        faceThrowsWhatIsDue();
+        constantsAreDue();
+        sourceKeepsToTheRules(Path.of(args[0]));
+        growthsTakeLittleRoom();
+        ordinalsTakeLittleRoom();
+        descentsTakeLittleRoom();
+        longUseEndsInAStatement();
+        C.end("RuleTests");
+    }
+
+    // ---- the face
+
+    private static void faceHasOnlyWhatIsDue() {
+        C.right("the class is public and final", Modifier.isPublic(Transseria.class.getModifiers()) && Modifier.isFinal(Transseria.class.getModifiers()));
+        C.due("constructors", Transseria.class.getDeclaredConstructors().length, 1);
+        int methods = 0;
+        Set<String> open = new HashSet<>();
+        for (Method method : Transseria.class.getDeclaredMethods()) {
+            if (!Modifier.isPrivate(method.getModifiers())) {
+                methods++;
+                open.add(method.getName());
+                C.right(method + " is public and of an object", method.getModifiers() == Modifier.PUBLIC);
+            }
+        }
+        C.due("methods", methods, 25);
+        for (Method method : Transseria.class.getDeclaredMethods()) {
+            C.right(method + " has a name of its own", !Modifier.isPrivate(method.getModifiers()) || !open.contains(method.getName()));
+        }
+        for (Field field : Transseria.class.getDeclaredFields()) {
+            int want = Modifier.PUBLIC | Modifier.STATIC | Modifier.FINAL;
+            C.right(field + " is a constant or private", field.getModifiers() == want || Modifier.isPrivate(field.getModifiers()));
+        }
+        for (Class<?> inside : Transseria.class.getDeclaredClasses()) {
+            C.right(inside + " is private", Modifier.isPrivate(inside.getModifiers()));
+        }
+    }
+
+    private static void thrown(String name, String... want) {
+        for (Method method : Transseria.class.getDeclaredMethods()) {
+            if (method.getName().equals(name)) {
+                List<String> got = new ArrayList<>();
+                for (Class<?> exception : method.getExceptionTypes()) {
+                    got.add(exception.getSimpleName());
+                }
+                C.right(name + " throws " + got, got.equals(Arrays.asList(want)));
+            }
+        }
+    }
+
+    private static void faceThrowsWhatIsDue() {
+        for (String name : "kind clear".split(" ")) {
+            thrown(name, PLACE);
+        }
+        for (String name : "finite number signs term".split(" ")) {
+            thrown(name, PLACE, ARGUMENT);
+        }
+        for (String name : "omega sum product difference natural derive compare powers times exponent birthday signOf parts tends terms".split(" ")) {
+            thrown(name, PLACE, STATE);
+        }
+        for (String name : "step descent cut part".split(" ")) {
+            thrown(name, PLACE, ARGUMENT, STATE);
+        }
+    }
+
+    private static void constantsAreDue() {
+        int[] got = {Transseria.NONE, Transseria.NOTHING, Transseria.ORDINAL, Transseria.NUMBER, Transseria.GROWTH,
+            Transseria.VANISHES, Transseria.SETTLES, Transseria.RISES, Transseria.FALLS};
+        C.right("constants", Arrays.equals(got, new int[] {-1, 0, 1, 2, 3, 0, 1, 2, 3}));
+        int open = 0;
+        for (Field field : Transseria.class.getDeclaredFields()) {
+            open += Modifier.isPublic(field.getModifiers()) ? 1 : 0;
+        }
+        C.due("how many constants", open, 9);
+    }
+
+    // ---- the text
+
+    private static String withoutComments(String text) {
+        return text.replaceAll("(?s)/\\*.*?\\*/", "").replaceAll("//[^\n]*", "");
+    }
+
+    private static void sourceKeepsToTheRules(Path source) throws IOException {
+        String text = withoutComments(Files.readString(source, StandardCharsets.US_ASCII));
+        String[] never = {"->", "::", "\\bfinally\\b", "\\bsynchronized\\b", "\\bassert\\b", "\\bcatch\\b", "\\bpackage\\b", "\\bexit\\b",
+            "\\b(hashCode|equals|toString)\\b", "Exact\\(", "\\b(Object|var|protected)\\b", "\\bstatic\\s*\\{", "\\bextends\\b", "\\bSystem\\b"};
+        for (String one : never) {
+            C.right("the text has no " + one, !Pattern.compile(one).matcher(text).find());
+        }
+        Matcher imports = Pattern.compile("import ([^;]*);").matcher(text);
+        while (imports.find()) {
+            C.right("import " + imports.group(1), imports.group(1).equals("java.util.Arrays"));
+        }
+        Matcher throwns = Pattern.compile("\\bthrow\\b([^;]*);").matcher(text);
+        while (throwns.find()) {
+            C.right("throw" + throwns.group(1), throwns.group(1).matches(" new (" + PLACE + "|" + ARGUMENT + "|" + STATE + ")\\(\"[^\"]*\"\\)"));
+        }
+        Matcher statics = Pattern.compile("\\n\\s*(\\w+ )?static (?!final)([^(;{=]*)[;=]").matcher(text);
+        C.right("every static field is final", !statics.find());
+        C.right("a dozen classes at most", text.split("\\bclass\\b").length - 1 <= 12);
+        for (String method : text.split("\n    (    )?}\n")) {
+            C.right("no method is long: " + method.substring(0, Math.min(80, method.length())), method.split("\n").length <= 60);
+        }
+    }
+
+    // ---- the room: 600,000 objects and arrays, of 16 bytes or more each, and 7.3 million elements
+
+    private static final long MOST_BYTES = 16L * 600000;
+
+    private static long bytes() {
+        com.sun.management.ThreadMXBean threads = (com.sun.management.ThreadMXBean) ManagementFactory.getThreadMXBean();
+        return threads.getThreadAllocatedBytes(Thread.currentThread().getId());
+    }
+
+    private static void tookLittle(String what, long before) {
+        long took = bytes() - before;
+        C.right(what + " took " + took + " bytes", took < MOST_BYTES);
+    }
+
+    private static void growthsTakeLittleRoom() {
+        long before = bytes();
+        Transseria x = new Transseria();
+        x.term(0, 0, 0, 0, 0, 0);
+        for (int k = -9; k <= 10; k++) {
+            x.term(1, 1, 0, k, 0, 0);
+            x.sum(0, 0, 1);
+        }
+        for (int k = 0; k < 235; k++) {
+            try {
+                x.product(2, 0, 0);
+            } catch (IllegalStateException e) {
+                x.derive(3, 0);
+            }
+        }
+        tookLittle("512 calls with growths", before);
+    }
+
+    /** Eight powers, the exponents of which have eight each, and so on for four levels: more than four thousand in all. */
+    private static void greatTree(Transseria x, int place) {
+        powers(x, place, 8);
+        for (int level = 0; level < 3; level++) {
+            x.exponent(14, place, 7);
+            x.omega(14, 14);
+            x.finite(13, 0);
+            for (int k = 0; k < 8; k++) {
+                x.sum(place, place, 14);
+                x.omega(12, place);
+                x.natural(13, 13, 12, false);
+            }
+            x.finite(12, 0);
+            x.sum(place, 13, 12);
+        }
+    }
+
+    private static void ordinalsTakeLittleRoom() {
+        long before = bytes();
+        Transseria x = new Transseria();
+        powers(x, 0, 4);
+        powers(x, 1, 5);
+        greatTree(x, 6);
+        greatTree(x, 7);
+        C.due("two great trees, made for themselves", x.compare(6, 7), 0);
+        x.omega(3, 0);
+        for (int k = 0; k < 40; k++) {
+            x.natural(2, 0, 1, true);
+            x.natural(8, 6, 7, false);
+            x.product(4, 3, 1);
+            x.product(4, 0, 1);
+            C.noState("64 pairs", () -> x.natural(8, 6, 7, true));
+            x.step(5, 3, 9);
+        }
+        tookLittle("500 calls with ordinals", before);
+    }
+
+    private static void powers(Transseria x, int place, int many) {
+        x.finite(place, 0);
+        for (int k = many - 1; k >= 0; k--) {
+            x.finite(15, k);
+            x.omega(15, 15);
+            x.sum(place, place, 15);
+        }
+    }
+
+    private static void descentsTakeLittleRoom() {
+        long before = bytes();
+        Transseria x = new Transseria();
+        x.finite(0, 1);
+        x.omega(0, 0);
+        x.omega(1, 0);
+        x.finite(3, 3);
+        x.omega(3, 3);
+        for (int k = 0; k < 125; k++) {
+            x.descent(0, 1, 2000);
+            x.descent(1, 2, 20);
+            x.descent(3, 1, 2000);
+            x.descent(3, 40, 2000);
+        }
+        tookLittle("500 descents", before);
+    }
+
+    /** What calls behind the 512th answer is free, but no exception of the machine may come. */
+    private static void longUseEndsInAStatement() {
+        Transseria x = new Transseria();
+        powers(x, 0, 4);
+        powers(x, 1, 5);
+        int refused = 0;
+        for (int k = 0; k < 100000; k++) {
+            try {
+                x.natural(2, 0, 1, true);
+            } catch (IllegalStateException e) {
+                refused++;
+            }
+        }
+        C.right("long use is refused by a statement", refused > 0);
+        C.due("and the places stay", x.powers(0), 4);
+    }
+}
