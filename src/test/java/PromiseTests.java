@@ -17,6 +17,7 @@ public final class PromiseTests {
         promise09sumThatDoesNotFit();
         promise10product();
         promise10productOfGrowths();
+        promise10productThatIsLongOnTheWay();
         promise11difference();
         promise12natural();
         promise12naturalThatDoesNotFit();
@@ -433,6 +434,34 @@ public final class PromiseTests {
         }
     }
 
+    /** (1 - x) times ten powers of log x, by twenty powers of x: two hundred parts on the way, twenty in the end. */
+    private static void promise10productThatIsLongOnTheWay() {
+        Transseria x = new Transseria();
+        xPowers(x, 0, 0, 19);
+        x.term(1, 0, 0, 0, 0, 0);
+        for (int k = 0; k < 10; k++) {
+            x.term(2, 1, 0, 0, k, 0);
+            x.sum(1, 1, 2);
+            x.term(2, -1, 0, 1, k, 0);
+            x.sum(1, 1, 2);
+        }
+        x.product(3, 1, 0);
+        x.product(4, 0, 1);
+        same("both ways", x, 3, 4);
+        C.due("twenty parts", x.terms(3), 20);
+        for (int k = 0; k < 10; k++) {
+            partIs("those with x to 20", x, 3, k, -1, 0, 20, 9 - k, 0);
+            partIs("those without x", x, 3, 10 + k, 1, 0, 0, 9 - k, 0);
+        }
+        x.term(5, 1, 20, 20, 20, 20);
+        x.product(5, 5, 5);
+        x.product(6, 5, 5);
+        C.due("80", x.part(6, 0, 4), 80);
+        x.term(7, 0, 0, 0, 0, 0);
+        x.product(7, 7, 6);
+        C.due("0 by a", x.terms(7), 0);
+    }
+
     private static void promise11difference() {
         Transseria x = withOneOfEach();
         x.number(4, 5, 2);
@@ -834,6 +863,17 @@ public final class PromiseTests {
         C.due("between many: 8", x.parts(15), 8L * ONE);
         x.number(15, 3, 0);
         C.due("with place 15", x.cut(10, 1 << 15, 1 << 8), 4);
+        cutOfAllPlaces();
+    }
+
+    private static void cutOfAllPlaces() {
+        Transseria x = new Transseria();
+        for (int k = 0; k < 16; k++) {
+            x.number(k, k - 30, 0);
+        }
+        C.due("above all places", x.cut(3, 65535, 0), 0);
+        x.number(3, -40, 0);
+        C.due("below all places", x.cut(3, 0, 65535), 41);
     }
 
     private static int negativeCut(Transseria x) {

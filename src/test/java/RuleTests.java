@@ -27,6 +27,7 @@ public final class RuleTests {
         growthsTakeLittleRoom();
         ordinalsTakeLittleRoom();
         descentsTakeLittleRoom();
+        refusedCallsKeepNothing();
         longUseEndsInAStatement();
         C.end("RuleTests");
     }
@@ -192,6 +193,23 @@ public final class RuleTests {
             x.step(5, 3, 9);
         }
         tookLittle("500 calls with ordinals", before);
+    }
+
+    /** What a refused call made on its way is not kept: 300 times 64 exponents would be more than there is room for. */
+    private static void refusedCallsKeepNothing() {
+        Transseria x = new Transseria();
+        powers(x, 0, 8);
+        x.finite(1, 0);
+        for (int k = 7; k >= 0; k--) {
+            x.finite(2, 8 * k);
+            x.omega(2, 2);
+            x.sum(1, 1, 2);
+        }
+        for (int k = 0; k < 300; k++) {
+            C.noState("64 pairs", () -> x.natural(3, 0, 1, true));
+        }
+        x.natural(3, 0, 0, false);
+        C.due("room for what fits", x.times(3, 0), 2);
     }
 
     private static void powers(Transseria x, int place, int many) {
