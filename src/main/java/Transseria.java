@@ -527,7 +527,7 @@ public final class Transseria {
             }
             int first = exponentOf(b, 0);
             int above = powersAbove(a, 0, first);
-            boolean both = above < powersOf(a) && compared(exponentOf(a, above), first) == 0;
+            boolean both = above < powersOf(a) && order(exponentOf(a, above), first, MOST_DEPTH) == 0;
             long together = (long) timesOf(b, 0) + (both ? timesOf(a, above) : 0);
             draft.restart();
             draftPowers(a, 0, above);
@@ -565,7 +565,7 @@ public final class Transseria {
                 int exponent = exponentOf(b, m);
                 int above = powersAbove(a, k, exponent);
                 draftPowers(a, k, above);
-                boolean both = above < powersOf(a) && compared(exponentOf(a, above), exponent) == 0;
+                boolean both = above < powersOf(a) && order(exponentOf(a, above), exponent, MOST_DEPTH) == 0;
                 draft.add((long) timesOf(b, m) + (both ? timesOf(a, above) : 0), exponent);
                 k = both ? above + 1 : above;
             }
@@ -587,10 +587,10 @@ public final class Transseria {
             int before = count;
             int exponent = naturallyAdded(one, other);
             int where = 0;
-            while (where < pairs.count() && compared(pairs.exponentAt(where), exponent) > 0) {
+            while (where < pairs.count() && order(pairs.exponentAt(where), exponent, MOST_DEPTH) > 0) {
                 where++;
             }
-            if (where < pairs.count() && compared(pairs.exponentAt(where), exponent) == 0) {
+            if (where < pairs.count() && order(pairs.exponentAt(where), exponent, MOST_DEPTH) == 0) {
                 pairs.raise(where, often);
                 // The same exponent stands already: the one just made is not kept.
                 count = before;
@@ -665,7 +665,7 @@ public final class Transseria {
         /** Where the powers of a with exponents above one end, from a power on that may have one. */
         private int powersAbove(int a, int from, int exponent) {
             int above = from;
-            while (above < powersOf(a) && compared(exponentOf(a, above), exponent) > 0) {
+            while (above < powersOf(a) && order(exponentOf(a, above), exponent, MOST_DEPTH) > 0) {
                 above++;
             }
             return above;

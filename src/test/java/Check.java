@@ -13,6 +13,13 @@ final class Check {
         }
     }
 
+    void text(String what, String got, String want) {
+        if (!got.equals(want)) {
+            wrong++;
+            System.out.println(what + " is " + got + ", due is " + want);
+        }
+    }
+
     void right(String what, boolean holds) {
         due(what, holds ? 1 : 0, 1);
     }

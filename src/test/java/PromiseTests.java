@@ -1,8 +1,7 @@
 /** One test a promise: ordinary arguments, the edges that the document names, and wrong ones. */
 public final class PromiseTests {
     private static final Check C = new Check();
-    private static final int[] WRONG_PLACES = {-1, 16, Integer.MIN_VALUE, Integer.MAX_VALUE};
-    private static final int ONE = 1048576;
+    private static final int ONE = Rooms.ONE;
 
     public static void main(String[] args) {
         promise01new();
@@ -53,34 +52,6 @@ public final class PromiseTests {
         return x;
     }
 
-    /** 0 an ordinal, 1 a number, 2 a growth, each 1; 3 nothing. */
-    private static Transseria withOneOfEach() {
-        Transseria x = new Transseria();
-        x.finite(0, 1);
-        x.number(1, 1, 0);
-        x.term(2, 1, 0, 0, 0, 0);
-        return x;
-    }
-
-    /** Omega to the power least to most each once, at a place; 15 is used on the way. */
-    private static void powersFrom(Transseria x, int place, int least, int most) {
-        x.finite(place, 0);
-        for (int k = most; k >= least; k--) {
-            x.finite(15, k);
-            x.omega(15, 15);
-            x.sum(place, place, 15);
-        }
-    }
-
-    /** x to each power from least to most, at a place; 15 is used on the way. */
-    private static void xPowers(Transseria x, int place, int least, int most) {
-        x.term(place, 0, 0, 0, 0, 0);
-        for (int k = least; k <= most; k++) {
-            x.term(15, 1, 0, k, 0, 0);
-            x.sum(place, place, 15);
-        }
-    }
-
     private static void ordinalIs(String what, Transseria x, int place, int... exponentsAndTimes) {
         C.due(what + ": powers", x.powers(place), exponentsAndTimes.length / 2);
         for (int k = 0; k < exponentsAndTimes.length / 2 && k < x.powers(place); k++) {
@@ -114,7 +85,7 @@ public final class PromiseTests {
     }
 
     private static void promise02kind() {
-        Transseria x = withOneOfEach();
+        Transseria x = Rooms.withOneOfEach();
         C.due("kind of an ordinal", x.kind(0), Transseria.ORDINAL);
         C.due("kind of a number", x.kind(1), Transseria.NUMBER);
         C.due("kind of a growth", x.kind(2), Transseria.GROWTH);
@@ -123,13 +94,13 @@ public final class PromiseTests {
         C.due("kind after another thing came", x.kind(0), Transseria.NUMBER);
         x.term(15, 0, 0, 0, 0, 0);
         C.due("kind at 15 of the growth 0", x.kind(15), Transseria.GROWTH);
-        for (int wrong : WRONG_PLACES) {
+        for (int wrong : Rooms.WRONG_PLACES) {
             C.noPlace("kind(" + wrong + ")", () -> x.kind(wrong));
         }
     }
 
     private static void promise03clear() {
-        Transseria x = withOneOfEach();
+        Transseria x = Rooms.withOneOfEach();
         C.due("clear an ordinal", x.clear(0), Transseria.ORDINAL);
         C.due("clear a number", x.clear(1), Transseria.NUMBER);
         C.due("clear a growth", x.clear(2), Transseria.GROWTH);
@@ -140,7 +111,7 @@ public final class PromiseTests {
         C.noState("powers of what is gone", () -> x.powers(0));
         C.noState("parts of what is gone", () -> x.parts(1));
         C.noState("terms of what is gone", () -> x.terms(2));
-        for (int wrong : WRONG_PLACES) {
+        for (int wrong : Rooms.WRONG_PLACES) {
             C.noPlace("clear(" + wrong + ")", () -> x.clear(wrong));
         }
     }
@@ -158,7 +129,7 @@ public final class PromiseTests {
         C.noArgument("finite(0, -1)", () -> x.finite(0, -1));
         C.noArgument("finite(0, 1000001)", () -> x.finite(0, 1000001));
         C.noPlace("a place first", () -> x.finite(16, -1));
-        for (int wrong : WRONG_PLACES) {
+        for (int wrong : Rooms.WRONG_PLACES) {
             C.noPlace("finite(" + wrong + ", 1)", () -> x.finite(wrong, 1));
         }
         ordinalIs("what refused calls leave", x, 0, 0, 1);
@@ -180,12 +151,12 @@ public final class PromiseTests {
         C.noState("a depth of 6 elsewhere", () -> x.omega(4, 3));
         C.due("nothing came", x.kind(4), Transseria.NOTHING);
         C.due("what stays", x.powers(3), 1);
-        Transseria y = withOneOfEach();
+        Transseria y = Rooms.withOneOfEach();
         for (int k = 1; k <= 3; k++) {
             int place = k;
             C.noState("omega to no ordinal", () -> y.omega(0, place));
         }
-        for (int wrong : WRONG_PLACES) {
+        for (int wrong : Rooms.WRONG_PLACES) {
             C.noPlace("omega(" + wrong + ", 0)", () -> y.omega(wrong, 0));
             C.noPlace("omega(0, " + wrong + ")", () -> y.omega(0, wrong));
         }
@@ -211,7 +182,7 @@ public final class PromiseTests {
         C.noArgument("power -1", () -> x.number(0, 0, -1));
         C.noArgument("power 21", () -> x.number(0, 0, 21));
         C.noPlace("a place first", () -> x.number(-1, 257, 21));
-        for (int wrong : WRONG_PLACES) {
+        for (int wrong : Rooms.WRONG_PLACES) {
             C.noPlace("number(" + wrong + ", 1, 1)", () -> x.number(wrong, 1, 1));
         }
         C.due("what refused calls leave", x.parts(0), 1);
@@ -244,7 +215,7 @@ public final class PromiseTests {
         C.noArgument("a bit beyond none", () -> x.signs(0, 1, 0));
         C.noArgument("a bit beyond 20", () -> x.signs(0, 1 << 20, 20));
         C.noPlace("a place first", () -> x.signs(16, -1, 21));
-        for (int wrong : WRONG_PLACES) {
+        for (int wrong : Rooms.WRONG_PLACES) {
             C.noPlace("signs(" + wrong + ", 1, 1)", () -> x.signs(wrong, 1, 1));
         }
         C.due("what refused calls leave", x.parts(0), -2);
@@ -270,7 +241,7 @@ public final class PromiseTests {
             C.noArgument("loglog " + wrong, () -> x.term(0, 1, 0, 0, 0, wrong));
         }
         C.noPlace("a place first", () -> x.term(16, 1000001, 21, 0, 0, 0));
-        for (int wrong : WRONG_PLACES) {
+        for (int wrong : Rooms.WRONG_PLACES) {
             C.noPlace("term(" + wrong + ", ..)", () -> x.term(wrong, 1, 0, 0, 0, 0));
         }
         partIs("what refused calls leave", x, 0, 0, 1000000, 20, -20, 20, -20);
@@ -317,7 +288,7 @@ public final class PromiseTests {
         x.sum(0, 0, 1);
         C.due("1000000 times", x.times(0, 0), 1000000);
         C.noState("1000001 times", () -> x.sum(2, 0, 1));
-        powersFrom(x, 3, 1, 8);
+        Rooms.powersFrom(x, 3, 1, 8);
         C.due("8 powers", x.powers(3), 8);
         C.noState("9 powers", () -> x.sum(3, 3, 1));
         C.due("8 powers stay", x.powers(3), 8);
@@ -328,7 +299,7 @@ public final class PromiseTests {
         x.sum(4, 4, 6);
         x.sum(4, 4, 5);
         C.due("256 still fits", x.parts(4), 256L * ONE);
-        xPowers(x, 7, 1, 20);
+        Rooms.xPowers(x, 7, 1, 20);
         x.term(8, 1, 0, 0, 0, 0);
         C.due("20 parts", x.terms(7), 20);
         C.noState("21 parts", () -> x.sum(7, 7, 8));
@@ -336,7 +307,7 @@ public final class PromiseTests {
         x.sum(9, 7, 9);
         x.sum(9, 9, 8);
         C.due("20 other parts", x.terms(9), 20);
-        Transseria y = withOneOfEach();
+        Transseria y = Rooms.withOneOfEach();
         for (int one = 0; one < 4; one++) {
             for (int other = 0; other < 4; other++) {
                 int a = one;
@@ -346,7 +317,7 @@ public final class PromiseTests {
                 }
             }
         }
-        for (int wrong : WRONG_PLACES) {
+        for (int wrong : Rooms.WRONG_PLACES) {
             C.noPlace("sum(" + wrong + ", 3, 3)", () -> y.sum(wrong, 3, 3));
             C.noPlace("sum(0, " + wrong + ", 3)", () -> y.sum(0, wrong, 3));
             C.noPlace("sum(0, 3, " + wrong + ")", () -> y.sum(0, 3, wrong));
@@ -377,7 +348,7 @@ public final class PromiseTests {
         same("500000 times 2", x, 10, 9);
         C.noState("1000000 times 2", () -> x.product(10, 9, 2));
         C.noState("1000000 times 1000000", () -> x.product(10, 9, 9));
-        powersFrom(x, 10, 0, 7);
+        Rooms.powersFrom(x, 10, 0, 7);
         C.noState("omega + 1 ahead of 8 powers' tail", () -> x.product(11, 10, 7));
         x.number(11, -3, 1);
         x.number(12, 1, 20);
@@ -393,7 +364,7 @@ public final class PromiseTests {
 
     private static void promise10productOfGrowths() {
         Transseria x = new Transseria();
-        xPowers(x, 0, 0, 9);
+        Rooms.xPowers(x, 0, 0, 9);
         x.term(1, 1, 0, 1, 0, 0);
         x.term(2, -1, 0, 0, 0, 0);
         x.sum(1, 1, 2);
@@ -424,10 +395,10 @@ public final class PromiseTests {
         x.product(10, 9, 10);
         C.due("exp x to 99", x.part(10, 0, 1), 99);
         C.noState("exp x to 100", () -> x.product(10, 9, 8));
-        Transseria y = withOneOfEach();
+        Transseria y = Rooms.withOneOfEach();
         C.noState("unlike things", () -> y.product(0, 0, 1));
         C.noState("nothing", () -> y.product(0, 3, 3));
-        for (int wrong : WRONG_PLACES) {
+        for (int wrong : Rooms.WRONG_PLACES) {
             C.noPlace("product(" + wrong + ", 3, 3)", () -> y.product(wrong, 3, 3));
             C.noPlace("product(0, " + wrong + ", 3)", () -> y.product(0, wrong, 3));
             C.noPlace("product(0, 3, " + wrong + ")", () -> y.product(0, 3, wrong));
@@ -437,7 +408,7 @@ public final class PromiseTests {
     /** (1 - x) times ten powers of log x, by twenty powers of x: two hundred parts on the way, twenty in the end. */
     private static void promise10productThatIsLongOnTheWay() {
         Transseria x = new Transseria();
-        xPowers(x, 0, 0, 19);
+        Rooms.xPowers(x, 0, 0, 19);
         x.term(1, 0, 0, 0, 0, 0);
         for (int k = 0; k < 10; k++) {
             x.term(2, 1, 0, 0, k, 0);
@@ -463,7 +434,7 @@ public final class PromiseTests {
     }
 
     private static void promise11difference() {
-        Transseria x = withOneOfEach();
+        Transseria x = Rooms.withOneOfEach();
         x.number(4, 5, 2);
         C.due("difference of numbers", x.difference(5, 1, 4), Transseria.NUMBER);
         C.due("1 - 5/4", x.parts(5), -ONE / 4);
@@ -485,7 +456,7 @@ public final class PromiseTests {
         C.noState("of ordinals", () -> x.difference(5, 0, 0));
         C.noState("of unlike things", () -> x.difference(5, 1, 2));
         C.noState("of nothing", () -> x.difference(5, 3, 3));
-        for (int wrong : WRONG_PLACES) {
+        for (int wrong : Rooms.WRONG_PLACES) {
             C.noPlace("difference(" + wrong + ", 0, 0)", () -> x.difference(wrong, 0, 0));
             C.noPlace("difference(0, " + wrong + ", 0)", () -> x.difference(0, wrong, 0));
             C.noPlace("difference(0, 0, " + wrong + ")", () -> x.difference(0, 0, wrong));
@@ -523,13 +494,13 @@ public final class PromiseTests {
     }
 
     private static void promise12naturalThatDoesNotFit() {
-        Transseria x = withOneOfEach();
-        powersFrom(x, 4, 0, 3);
-        powersFrom(x, 5, 0, 4);
+        Transseria x = Rooms.withOneOfEach();
+        Rooms.powersFrom(x, 4, 0, 3);
+        Rooms.powersFrom(x, 5, 0, 4);
         x.natural(6, 4, 5, true);
         ordinalIs("4 by 5 powers are 8", x, 6, 7, 1, 6, 2, 5, 3, 4, 4, 3, 4, 2, 3, 1, 2, 0, 1);
         C.noState("5 by 5 powers are 9", () -> x.natural(6, 5, 5, true));
-        powersFrom(x, 7, 5, 8);
+        Rooms.powersFrom(x, 7, 5, 8);
         C.noState("5 and 4 other powers", () -> x.natural(6, 5, 7, false));
         C.due("what refused calls leave", x.powers(6), 8);
         x.finite(8, 500001);
@@ -546,7 +517,7 @@ public final class PromiseTests {
             C.noState("no ordinal", () -> x.natural(0, place, 0, false));
             C.noState("no ordinal by one", () -> x.natural(0, 0, place, true));
         }
-        for (int wrong : WRONG_PLACES) {
+        for (int wrong : Rooms.WRONG_PLACES) {
             C.noPlace("natural(" + wrong + ", 3, 3, true)", () -> x.natural(wrong, 3, 3, true));
             C.noPlace("natural(0, " + wrong + ", 3, true)", () -> x.natural(0, wrong, 3, true));
             C.noPlace("natural(0, 3, " + wrong + ", false)", () -> x.natural(0, 3, wrong, false));
@@ -554,7 +525,7 @@ public final class PromiseTests {
     }
 
     private static void promise13derive() {
-        Transseria x = withOneOfEach();
+        Transseria x = Rooms.withOneOfEach();
         x.term(4, 2, 3, 4, 5, 6);
         x.derive(5, 4);
         C.due("four parts", x.terms(5), 4);
@@ -590,14 +561,14 @@ public final class PromiseTests {
         for (int k : new int[] {0, 1, 3}) {
             C.noState("no growth", () -> x.derive(5, k));
         }
-        for (int wrong : WRONG_PLACES) {
+        for (int wrong : Rooms.WRONG_PLACES) {
             C.noPlace("derive(" + wrong + ", 0)", () -> x.derive(wrong, 0));
             C.noPlace("derive(0, " + wrong + ")", () -> x.derive(0, wrong));
         }
     }
 
     private static void derivativeOfManyParts(Transseria x) {
-        xPowers(x, 13, 1, 20);
+        Rooms.xPowers(x, 13, 1, 20);
         x.derive(14, 13);
         C.due("20 parts of 20", x.terms(14), 20);
         partIs("the first one", x, 14, 0, 20, 0, 19, 0, 0);
@@ -638,12 +609,12 @@ public final class PromiseTests {
         x.sum(13, 14, 14);
         C.due("the times tell", x.compare(13, 15), -1);
         same("a growth and itself", x, 15, 15);
-        Transseria y = withOneOfEach();
+        Transseria y = Rooms.withOneOfEach();
         C.noState("unlike things", () -> y.compare(0, 1));
         C.noState("a number and a growth", () -> y.compare(1, 2));
         C.noState("nothing", () -> y.compare(3, 3));
         C.noState("nothing and an ordinal", () -> y.compare(0, 3));
-        for (int wrong : WRONG_PLACES) {
+        for (int wrong : Rooms.WRONG_PLACES) {
             C.noPlace("compare(" + wrong + ", 3)", () -> y.compare(wrong, 3));
             C.noPlace("compare(3, " + wrong + ")", () -> y.compare(3, wrong));
         }
@@ -672,7 +643,7 @@ public final class PromiseTests {
         C.due("a step of omega to (omega + 1) by 4", x.times(9, 0), 4);
         x.exponent(9, 9, 0);
         same("its exponent", x, 9, 4);
-        powersFrom(x, 10, 1, 8);
+        Rooms.powersFrom(x, 10, 1, 8);
         x.step(11, 10, 6);
         C.due("8 powers by one for one", x.powers(11), 8);
         x.sum(12, 11, 0);
@@ -688,12 +659,12 @@ public final class PromiseTests {
         C.noArgument("an argument before the state", () -> x.step(11, 0, 0));
         C.noPlace("a place before an argument", () -> x.step(16, 0, 0));
         C.due("what refused calls leave", x.powers(11), 8);
-        Transseria y = withOneOfEach();
+        Transseria y = Rooms.withOneOfEach();
         for (int k = 1; k <= 3; k++) {
             int place = k;
             C.noState("no ordinal", () -> y.step(0, place, 1));
         }
-        for (int wrong : WRONG_PLACES) {
+        for (int wrong : Rooms.WRONG_PLACES) {
             C.noPlace("step(" + wrong + ", 0, 1)", () -> y.step(wrong, 0, 1));
             C.noPlace("step(0, " + wrong + ", 1)", () -> y.step(0, wrong, 1));
         }
@@ -726,20 +697,20 @@ public final class PromiseTests {
         for (int wrong : new int[] {-1, 2001, Integer.MIN_VALUE}) {
             C.noArgument("most " + wrong, () -> x.descent(3, 1, wrong));
         }
-        Transseria y = withOneOfEach();
+        Transseria y = Rooms.withOneOfEach();
         C.noArgument("an argument before the state", () -> y.descent(3, 0, 5));
         for (int k = 1; k <= 3; k++) {
             int place = k;
             C.noState("no ordinal", () -> y.descent(place, 1, 5));
         }
-        for (int wrong : WRONG_PLACES) {
+        for (int wrong : Rooms.WRONG_PLACES) {
             C.noPlace("descent(" + wrong + ", 0, -1)", () -> y.descent(wrong, 0, -1));
         }
     }
 
     private static void promise16descentThatDoesNotFit() {
         Transseria x = new Transseria();
-        powersFrom(x, 0, 2, 9);
+        Rooms.powersFrom(x, 0, 2, 9);
         x.natural(0, 0, 0, false);
         C.due("no step, none that does not fit", x.descent(0, 1, 0), Transseria.NONE);
         C.noState("the first step has 9 powers", () -> x.descent(0, 1, 1));
@@ -759,23 +730,23 @@ public final class PromiseTests {
     }
 
     private static void promise17powers() {
-        Transseria x = withOneOfEach();
+        Transseria x = Rooms.withOneOfEach();
         C.due("powers of 1", x.powers(0), 1);
         x.finite(0, 0);
         C.due("powers of 0", x.powers(0), 0);
-        powersFrom(x, 4, 0, 7);
+        Rooms.powersFrom(x, 4, 0, 7);
         C.due("8 powers", x.powers(4), 8);
         for (int k = 1; k <= 3; k++) {
             int place = k;
             C.noState("powers of no ordinal", () -> x.powers(place));
         }
-        for (int wrong : WRONG_PLACES) {
+        for (int wrong : Rooms.WRONG_PLACES) {
             C.noPlace("powers(" + wrong + ")", () -> x.powers(wrong));
         }
     }
 
     private static void promise18times() {
-        Transseria x = withOneOfEach();
+        Transseria x = Rooms.withOneOfEach();
         x.finite(4, 1);
         x.omega(4, 4);
         x.finite(5, 1000000);
@@ -794,7 +765,7 @@ public final class PromiseTests {
             int place = k;
             C.noState("times of no ordinal", () -> x.times(place, 0));
         }
-        for (int wrong : WRONG_PLACES) {
+        for (int wrong : Rooms.WRONG_PLACES) {
             C.noPlace("times(" + wrong + ", 0)", () -> x.times(wrong, 0));
         }
     }
@@ -815,12 +786,12 @@ public final class PromiseTests {
         same("what refused calls leave", x, 7, 0);
         x.exponent(6, 6, 0);
         same("where it stood itself", x, 6, 4);
-        Transseria y = withOneOfEach();
+        Transseria y = Rooms.withOneOfEach();
         for (int k = 1; k <= 3; k++) {
             int place = k;
             C.noState("exponent of no ordinal", () -> y.exponent(0, place, 0));
         }
-        for (int wrong : WRONG_PLACES) {
+        for (int wrong : Rooms.WRONG_PLACES) {
             C.noPlace("exponent(" + wrong + ", 3, 0)", () -> y.exponent(wrong, 3, 0));
             C.noPlace("exponent(0, " + wrong + ", 0)", () -> y.exponent(0, wrong, 0));
         }
@@ -884,7 +855,7 @@ public final class PromiseTests {
     }
 
     private static void promise20cutThatIsRefused() {
-        Transseria x = withOneOfEach();
+        Transseria x = Rooms.withOneOfEach();
         x.number(4, 2, 0);
         x.number(5, 2097153, 20);
         x.number(6, 256, 0);
@@ -905,7 +876,7 @@ public final class PromiseTests {
             C.noPlace("a place first", () -> x.cut(16, wrong, wrong));
         }
         C.due("what refused calls leave", x.parts(1), ONE);
-        for (int wrong : WRONG_PLACES) {
+        for (int wrong : Rooms.WRONG_PLACES) {
             C.noPlace("cut(" + wrong + ", 0, 0)", () -> x.cut(wrong, 0, 0));
         }
     }
@@ -925,11 +896,11 @@ public final class PromiseTests {
         birthdayIs(x, 4, 2, 1);
         birthdayIs(x, 19, 3, 6);
         birthdayIs(x, 268435455, 20, 276);
-        Transseria y = withOneOfEach();
+        Transseria y = Rooms.withOneOfEach();
         for (int k : new int[] {0, 2, 3}) {
             C.noState("birthday of no number", () -> y.birthday(k));
         }
-        for (int wrong : WRONG_PLACES) {
+        for (int wrong : Rooms.WRONG_PLACES) {
             C.noPlace("birthday(" + wrong + ")", () -> y.birthday(wrong));
         }
     }
@@ -955,17 +926,17 @@ public final class PromiseTests {
         C.due("far behind", x.signOf(0, Integer.MAX_VALUE), 0);
         C.noPlace("k below 0", () -> x.signOf(0, -1));
         C.noPlace("k below 0 of nothing", () -> x.signOf(1, -1));
-        Transseria y = withOneOfEach();
+        Transseria y = Rooms.withOneOfEach();
         for (int k : new int[] {0, 2, 3}) {
             C.noState("sign of no number", () -> y.signOf(k, 0));
         }
-        for (int wrong : WRONG_PLACES) {
+        for (int wrong : Rooms.WRONG_PLACES) {
             C.noPlace("signOf(" + wrong + ", 0)", () -> y.signOf(wrong, 0));
         }
     }
 
     private static void promise23parts() {
-        Transseria x = withOneOfEach();
+        Transseria x = Rooms.withOneOfEach();
         C.due("parts of 1", x.parts(1), ONE);
         x.number(4, -1, 20);
         C.due("parts of a part below 0", x.parts(4), -1);
@@ -974,7 +945,7 @@ public final class PromiseTests {
         for (int k : new int[] {0, 2, 3}) {
             C.noState("parts of no number", () -> x.parts(k));
         }
-        for (int wrong : WRONG_PLACES) {
+        for (int wrong : Rooms.WRONG_PLACES) {
             C.noPlace("parts(" + wrong + ")", () -> x.parts(wrong));
         }
     }
@@ -991,7 +962,7 @@ public final class PromiseTests {
     }
 
     private static void promise24tends() {
-        Transseria x = withOneOfEach();
+        Transseria x = Rooms.withOneOfEach();
         C.due("1", x.tends(2), Transseria.SETTLES);
         tendsTo(x, Transseria.VANISHES, 0, 0, 0, 0, 0);
         tendsTo(x, Transseria.SETTLES, -7, 0, 0, 0, 0);
@@ -1007,28 +978,28 @@ public final class PromiseTests {
         for (int k : new int[] {0, 1, 3}) {
             C.noState("tends of no growth", () -> x.tends(k));
         }
-        for (int wrong : WRONG_PLACES) {
+        for (int wrong : Rooms.WRONG_PLACES) {
             C.noPlace("tends(" + wrong + ")", () -> x.tends(wrong));
         }
     }
 
     private static void promise25terms() {
-        Transseria x = withOneOfEach();
+        Transseria x = Rooms.withOneOfEach();
         C.due("terms of 1", x.terms(2), 1);
         x.term(2, 0, 0, 0, 0, 0);
         C.due("terms of 0", x.terms(2), 0);
-        xPowers(x, 4, -9, 10);
+        Rooms.xPowers(x, 4, -9, 10);
         C.due("20 terms", x.terms(4), 20);
         for (int k : new int[] {0, 1, 3}) {
             C.noState("terms of no growth", () -> x.terms(k));
         }
-        for (int wrong : WRONG_PLACES) {
+        for (int wrong : Rooms.WRONG_PLACES) {
             C.noPlace("terms(" + wrong + ")", () -> x.terms(wrong));
         }
     }
 
     private static void promise26part() {
-        Transseria x = withOneOfEach();
+        Transseria x = Rooms.withOneOfEach();
         int[][] falling = {{7, 1, 0, 0, 0}, {-6, 0, 2, 0, 0}, {5, 0, 1, 1, 0}, {-4, 0, 1, 0, 3}, {3, 0, 0, 0, 0}, {2, 0, -1, 9, 9}, {-1, -1, 9, 9, 9}};
         x.term(4, 0, 0, 0, 0, 0);
         for (int k : new int[] {3, 6, 0, 5, 2, 1, 4}) {
@@ -1047,7 +1018,7 @@ public final class PromiseTests {
         for (int k : new int[] {0, 1, 3}) {
             C.noState("part of no growth", () -> x.part(k, 0, 0));
         }
-        for (int wrong : WRONG_PLACES) {
+        for (int wrong : Rooms.WRONG_PLACES) {
             C.noPlace("part(" + wrong + ", 0, 5)", () -> x.part(wrong, 0, 5));
         }
     }
